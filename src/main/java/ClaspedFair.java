@@ -1651,6 +1651,7 @@ public final class ClaspedFair {
         private static final int MOST_COIN = 60;
         private static final int MOST_WEIGHED = 1000;
         private static final int MOST_PENS = 4;
+        private static final int ABOVE_ALL_HERDS = 1000;
         private static final int MOST_FINGERS = 20;
         private static final int MOST_NUMBERS = 9;
         private static final int MOST_ROW = 20;
@@ -1769,8 +1770,8 @@ public final class ClaspedFair {
         }
 
         void fillPens(Told herds, int k) {
-            fullest = Integer.MAX_VALUE;
-            level = Integer.MAX_VALUE;
+            fullest = ABOVE_ALL_HERDS;
+            level = ABOVE_ALL_HERDS;
             for (int p = 0; p < MOST_PENS; p++) {
                 pen[p] = 0;
             }
