@@ -25,7 +25,6 @@ public final class ClaspedFair {
     private static final int BOOK_PASSED = 2;
     private static final int BOOK_HELD = 3;
 
-    private static final int TEXTS = 4;
     private static final int TEXT_LAW = 0;
     private static final int TEXT_FAIR = 1;
     private static final int TEXT_HABITS = 2;
@@ -188,7 +187,7 @@ public final class ClaspedFair {
     public int text(int k) {
         tape.scan();
         reader.begin();
-        if (k < 0 || k >= TEXTS || !reader.reads(k, now.market.people, now.market.horses)) {
+        if (!isWithin(k, TEXT_LAW, TEXT_KIN) || !reader.reads(k, now.market.people, now.market.horses)) {
             return NONE;
         }
         Lines text = now.textOf(k);
@@ -1075,7 +1074,6 @@ public final class ClaspedFair {
         private void follow(Lines habits, int line) {
             int who = habits.cell(line, 2);
             int much = habits.cell(line, 4);
-            int at = who * TRAITS + habits.cell(line, 3);
             switch (habits.cell(line, 1)) {
                 case Tape.GLOVE:
                     market.hand[who] = GLOVED;
@@ -1090,9 +1088,13 @@ public final class ClaspedFair {
                     market.purse[who] = Math.min(MOST_PURSE, market.purse[who] + much);
                     break;
                 default:
-                    market.traits[at] = Math.max(0, market.traits[at] - much);
+                    cool(who, habits.cell(line, 3), much);
                     break;
             }
+        }
+
+        private void cool(int who, int trait, int much) {
+            market.traits[who * TRAITS + trait] = Math.max(0, market.traitOf(who, trait) - much);
         }
     }
 
@@ -1365,7 +1367,6 @@ public final class ClaspedFair {
             }
             next();
             lines.put(1, habit);
-            lines.put(3, 0);
             if (!takes(2, 0, people - 1)) {
                 return false;
             }

@@ -90,9 +90,10 @@ public final class PeopleTest {
         Check.due("horse forgets what can be undone", x.look(11), 0);
         Check.due("owner", x.horseOf(0, 0), 1);
         Check.due("worth", x.horseOf(0, 1), 999);
+        Check.due("horse(0, 0, 0)", x.horse(0, 0, 0), 1);
         Check.due("spirit", x.horseOf(0, 2), 9);
         Check.due("sold", x.horseOf(0, 3), 0);
-        for (int h = 1; h < 10; h++) {
+        for (int h = 2; h < 10; h++) {
             Check.due("horse " + h, x.horse(0, h, 0), h);
         }
         Check.due("the eleventh", x.horse(0, 1, 1), -1);
@@ -132,6 +133,10 @@ public final class PeopleTest {
         Check.due("spirit of the other", x.horseOf(0, 2), 6);
         Check.due("set to 0", x.set(7, 1, 0), true);
         Check.due("spirit 0", x.horseOf(1, 2), 0);
+        Check.due("set to 0", x.set(4, 1, 0) && x.set(5, 1, 0) && x.set(6, 1, 0), true);
+        Check.due("trait 0", x.of(1, 4), 0);
+        Check.due("purse 0", x.of(1, 5), 0);
+        Check.due("worth 0", x.horseOf(1, 1), 0);
         x.days(1);
         Check.due("set to what it is", x.set(5, 0, 10), true);
         Check.due("is told all the same", x.look(11), 0);

@@ -114,6 +114,9 @@ public final class TextTest {
         Check.dueFault(x, 0, "when 1=1;", 1, 0);
         Check.dueFault(x, 0, "on 1 glove 0;", 1, 0);
         Check.dueFault(x, 0, "passes -1;", 1, 7);
+        Check.dueFault(x, 0, "passes passes;", 1, 7);
+        Check.dueFault(x, 0, "passes asks;", 1, 7);
+        Check.dueFault(x, 0, "passes when 1=1;", 1, 7);
         Check.dueFault(x, 0, "passes (1);", 1, 7);
         Check.dueFault(x, 0, "passes 1 2;", 1, 9);
         Check.dueFault(x, 0, "passes 1 + ;", 1, 11);
@@ -257,6 +260,14 @@ public final class TextTest {
         Check.dueFault(x, 0, "pass 1;", 1, 0);
         Check.dueFault(x, 0, "Passes 1;", 1, 0);
         Check.dueFault(x, 0, "passesX 1;", 1, 0);
+        Check.dueFault(x, 0, "passesA 1;", 1, 0);
+        Check.dueFault(x, 0, "passesZ 1;", 1, 0);
+        Check.dueFault(x, 0, "passesa 1;", 1, 0);
+        Check.dueFault(x, 0, "passesz 1;", 1, 0);
+        for (char c : new char[] {'@', '[', '`', '{', ':', '!', '?', '\'', '\"', '%', 31, 127, 128, 255}) {
+            Check.dueFault(x, 0, "passes" + c + "1;", 1, 6);
+            Check.dueFault(x, 0, "passes 1" + c + ";", 1, 8);
+        }
         Check.dueFault(x, 0, "passes\t1;", 1, 6);
         Check.dueFault(x, 0, "passes 1\r;", 1, 8);
         Check.dueFault(x, 0, "passes 1;\0", 1, 9);
@@ -265,5 +276,14 @@ public final class TextTest {
         Check.dueFault(x, 0, "passes 1 when 1<=1;", 1, 16);
         Check.dueFault(x, 0, "passes 1_;", 1, 8);
         Check.dueText(x, 3, "person0kin1;person1kin2;", 2);
+        // As many tokens as there can be.
+        Check.dueFault(x, 0, times(";", 400), 1, 0);
+        Check.dueText(x, 0, "asks 1" + times("+1", 196) + " ;", 1);
+        Check.due("told", x.asks(1, 0, 1), 197);
+        Check.dueFault(x, 0, "asks 1" + times("+1", 197), 1, 400);
+        Check.dueText(x, 0, "asks 1*8" + times("/1", 195) + " ;", 1);
+        Check.due("told", x.asks(1, 0, 1), 8);
+        Check.dueText(x, 0, "asks 3 when 1=1" + times(" or 1=1", 54) + "    ;", 1);
+        Check.due("told", x.asks(1, 0, 1), 3);
     }
 }
