@@ -2,8 +2,18 @@
 final class Check {
     private static int asked = 0;
     private static int wrong = 0;
+    private static String about = "";
 
     private Check() {
+    }
+
+    /** What the answers to come are about: it stands ahead of what is told of a wrong one. */
+    static void about(String what) {
+        about = what.isEmpty() ? "" : "[" + what + "] ";
+    }
+
+    static int asked() {
+        return asked;
     }
 
     static void due(String what, long got, long want) {
@@ -11,7 +21,7 @@ final class Check {
         if (got != want) {
             wrong++;
             if (wrong <= 50) {
-                System.out.println(what + " answered " + got + ", due is " + want);
+                System.out.println(about + what + " answered " + got + ", due is " + want);
             }
         }
     }
@@ -53,6 +63,44 @@ final class Check {
         due("fault(0) of " + text, x.fault(0), fault);
         due("fault(1) of " + text, x.fault(1), place);
         due("lines after the fault of " + text, x.look(7 + k), before);
+    }
+
+    /** All that can be asked of an object and changes nothing: what must stay alike over a refused call. */
+    static String seen(ClaspedFair x) {
+        StringBuilder s = new StringBuilder();
+        for (int what = 0; what <= 11; what++) {
+            s.append(x.look(what)).append(' ');
+        }
+        for (int p = 0; p < x.look(0); p++) {
+            for (int what = 0; what <= 8; what++) {
+                s.append(x.of(p, what)).append(' ');
+            }
+        }
+        for (int h = 0; h < x.look(1); h++) {
+            for (int what = 0; what <= 3; what++) {
+                s.append(x.horseOf(h, what)).append(' ');
+            }
+        }
+        for (int i = 0; i < x.look(5); i++) {
+            for (int what = 0; what <= 3; what++) {
+                s.append(x.book(i, what)).append(' ');
+            }
+        }
+        for (int a = -1; a < 12; a++) {
+            s.append(x.came(a, -1)).append(' ');
+        }
+        s.append(x.could()).append(' ').append(x.balance(0, 2)).append(' ').append(x.pens(1, 0)).append(' ');
+        for (int what = 0; what <= 2; what++) {
+            s.append(x.game(what)).append(' ');
+        }
+        return s.append(x.fault(0)).append(' ').append(x.fault(1)).toString();
+    }
+
+    /** A call that answers so and changes nothing. */
+    static void dueRefused(String what, ClaspedFair x, java.util.function.IntSupplier call, int want) {
+        String was = seen(x);
+        due(what, call.getAsInt(), want);
+        due(what + " changes nothing", seen(x).equals(was), true);
     }
 
     static void finish() {
