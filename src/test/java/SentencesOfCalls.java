@@ -338,6 +338,9 @@ final class SentencesOfCalls {
             Check.dueFault(x, 0, "1".repeat(400), 1, 0);
             Check.dueText(x, 0, " ".repeat(400), 0);
             // However many are told one behind the other, each is the whole text.
+            Check.dueText(x, 0, "asks 8/2;", 1);
+            Check.dueText(x, 0, "asks 9;", 1);
+            Check.due("asks", x.asks(1, 0, 1), 9);
             for (int i = 0; i < 30; i++) {
                 Check.dueText(x, 0, "asks 1" + "+1".repeat(40 + i) + ";", 1);
                 Check.due("asks", x.asks(1, 0, 1), 41 + i);
