@@ -337,6 +337,9 @@ final class SentencesOfCalls {
             Check.dueFault(x, 0, "s".repeat(400), 1, 0);
             Check.dueFault(x, 0, "1".repeat(400), 1, 0);
             Check.dueText(x, 0, " ".repeat(400), 0);
+            // A full TAPE whose end is the beginning of a KEYWORD, and one whose end is a line's.
+            Check.dueFault(x, 0, " ".repeat(397) + "ask", 1, 397);
+            Check.dueText(x, 0, " ".repeat(393) + "asks 1;", 1);
             // However many are told one behind the other, each is the whole text.
             Check.dueText(x, 0, "asks 8/2;", 1);
             Check.dueText(x, 0, "asks 9;", 1);
