@@ -743,7 +743,8 @@ public final class ClaspedFair {
         }
 
         int cell(int line, int what) {
-            return cells[line * LINE_WIDTH + what];
+            int at = line * LINE_WIDTH + what;
+            return isWithin(at, 0, cells.length - 1) ? cells[at] : 0;
         }
 
         /** Puts a number into the line that is being written. */
@@ -836,7 +837,8 @@ public final class ClaspedFair {
 
         private int worked(int from, int to) {
             int top = 0;
-            for (int i = from; i < to && top < DEEPEST; i++) {
+            int end = Math.min(to, lines.stepCount);
+            for (int i = Math.max(0, from); i < end && top < DEEPEST; i++) {
                 int kind = lines.steps[i] % KINDS;
                 int number = lines.steps[i] / KINDS;
                 if (kind < GIVEN) {
@@ -926,13 +928,14 @@ public final class ClaspedFair {
         int ask(int word, int one, int other, int trait) {
             int[] given = law.given;
             boolean hasTraits = word != Law.ASKS;
+            boolean hasHorse = market.isHorse(horse);
             given[Law.TRAIT] = trait;
             given[Law.OWN] = hasTraits ? market.traitOf(one, trait) : 0;
             given[Law.OTHER] = hasTraits ? market.traitOf(other, trait) : 0;
             given[Law.GRIP] = grip;
             given[Law.PRICE] = price;
-            given[Law.WORTH] = horse == NONE ? 0 : market.worth[horse];
-            given[Law.SPIRIT] = horse == NONE ? 0 : market.spirit[horse];
+            given[Law.WORTH] = hasHorse ? market.worth[horse] : 0;
+            given[Law.SPIRIT] = hasHorse ? market.spirit[horse] : 0;
             given[Law.SHOOK] = market.shook[one];
             given[Law.PURSE] = market.purse[one];
             given[Law.KIN] = world.kinOf(one) >> other & 1;
@@ -1074,6 +1077,9 @@ public final class ClaspedFair {
         private void follow(Lines habits, int line) {
             int who = habits.cell(line, 2);
             int much = habits.cell(line, 4);
+            if (!market.isPerson(who)) {
+                return;
+            }
             switch (habits.cell(line, 1)) {
                 case Tape.GLOVE:
                     market.hand[who] = GLOVED;
@@ -1094,7 +1100,9 @@ public final class ClaspedFair {
         }
 
         private void cool(int who, int trait, int much) {
-            market.traits[who * TRAITS + trait] = Math.max(0, market.traitOf(who, trait) - much);
+            if (isWithin(trait, 0, TRAITS - 1)) {
+                market.traits[who * TRAITS + trait] = Math.max(0, market.traitOf(who, trait) - much);
+            }
         }
     }
 
@@ -1198,8 +1206,10 @@ public final class ClaspedFair {
         }
 
         private void put(int token, int kind, int place) {
-            kinds[token] = kind;
-            places[token] = place;
+            if (token <= TAPE_BYTES) {
+                kinds[token] = kind;
+                places[token] = place;
+            }
         }
 
         private boolean isLetter(int at) {
@@ -1825,20 +1835,24 @@ public final class ClaspedFair {
         int goodTurn(Told rows, int what) {
             int all = 0;
             for (int r = 0; r < rows.count; r++) {
-                all ^= HEAP[rows.value[r]];
+                all ^= heapOf(rows.value[r]);
             }
             for (int r = 0; r < rows.count; r++) {
                 int size = rows.value[r];
-                int wanted = all ^ HEAP[size];
+                int wanted = all ^ heapOf(size);
                 for (int place = 0; place < size; place++) {
                     for (int many = 1; many <= 2 && place + many <= size; many++) {
-                        if ((HEAP[place] ^ HEAP[size - place - many]) == wanted) {
+                        if ((heapOf(place) ^ heapOf(size - place - many)) == wanted) {
                             return what == 0 ? r : what == 1 ? place : many;
                         }
                     }
                 }
             }
             return NONE;
+        }
+
+        private static int heapOf(int hands) {
+            return isWithin(hands, 0, MOST_ROW) ? HEAP[hands] : 0;
         }
     }
 }

@@ -31,6 +31,9 @@ public final class FaceTest {
         "volatile", "transient", "strictfp", "import", "package", "protected", "double", "float", "Exact",
     };
 
+    private static final Set<String> LIBRARY = Set.of("Math.min", "Math.max", "Math.abs", "Integer.bitCount",
+            "Integer.numberOfTrailingZeros", "System.arraycopy");
+
     public static void main(String[] args) throws Exception {
         face();
         nested();
@@ -105,5 +108,29 @@ public final class FaceTest {
         }
         Check.due("a lambda or a method's reference", code.contains("->") || code.contains("::"), false);
         Check.due("three dimensions or a list of lists", code.contains("[][]"), false);
+        library(code);
+        methods(code);
+    }
+
+    private static void library(String code) {
+        Matcher m = Pattern.compile("\\b(Math|Integer|Long|System|Arrays|String|List)\\.(\\w+)").matcher(code);
+        while (m.find()) {
+            Check.due("the library's " + m.group(), LIBRARY.contains(m.group()), true);
+        }
+    }
+
+    /** A method's head is indented by four or eight blanks, its end alike. */
+    private static void methods(String code) {
+        String head = "(?m)^(    |        )((?:\\w+ )*[\\w\\[\\]]+\\([^;=]*\\)) \\{\\n((?:.*\\n)*?)\\1\\}";
+        Matcher m = Pattern.compile(head).matcher(code);
+        int seen = 0;
+        while (m.find()) {
+            seen++;
+            int lines = m.group(3).split("\n").length;
+            boolean isConstructor = m.group(2).matches("(public )?[A-Z]\\w*\\(.*");
+            Check.due("lines of " + m.group(2), lines <= 60, true);
+            Check.due("made in " + m.group(2), m.group(3).contains("new ") && !isConstructor, false);
+        }
+        Check.due("methods seen: " + seen, seen > 120, true);
     }
 }

@@ -31,9 +31,11 @@ public final class RandomRunsTest {
         tame = run % 4 != 0;
     }
 
+    /** With an argument: so many runs. */
     public static void main(String[] args) throws Exception {
         Method[] face = faceMethods();
-        for (int run = 0; run < RUNS; run++) {
+        int runs = args.length > 0 ? Integer.parseInt(args[0]) : RUNS;
+        for (int run = 0; run < runs; run++) {
             new RandomRunsTest(run).go(face);
         }
         Check.finish();
