@@ -952,13 +952,17 @@ public final class ClaspedFair {
         }
 
         boolean canBuy(int buyer, int itsHorse, int itsPrice, int itsGrip) {
-            if (!market.isPerson(buyer) || !market.isHorse(itsHorse) || market.owner[itsHorse] == buyer) {
+            if (!market.isPerson(buyer) || !market.isHorse(itsHorse)) {
+                return false;
+            }
+            int owner = market.owner[itsHorse];
+            if (!market.isPerson(owner) || owner == buyer) {
                 return false;
             }
             if (!isWithin(itsPrice, 0, market.purse[buyer]) || !isWithin(itsGrip, 1, MOST_GRIP)) {
                 return false;
             }
-            meet(market.owner[itsHorse], buyer, itsHorse, itsPrice, itsGrip);
+            meet(owner, buyer, itsHorse, itsPrice, itsGrip);
             return !isAnyHand(SLUNG) && itsPrice >= ask(Law.ASKS, first, second, 0);
         }
 
@@ -1543,7 +1547,7 @@ public final class ClaspedFair {
         private int people;
 
         void take(World world, int ofPeople) {
-            people = ofPeople;
+            people = Math.min(ofPeople, MOST_PEOPLE);
             for (int p = 0; p < people; p++) {
                 kin[p] = world.kinOf(p);
             }
